@@ -14,6 +14,8 @@ public final class StepTest {
         weak();
         row();
         withoutSteps();
+        largestLand();
+        factsAnew();
         check.end();
     }
 
@@ -161,6 +163,7 @@ public final class StepTest {
         check.due("22: step 1, its year", x.doubt(1, 2), 1);
         check.due("22: step 1, over step 2", x.doubt(1, 3), 2);
         check.due("22: step 2", x.doubt(2, 3), 1);
+        check.due("22: ahead of all steps", x.doubt(1, 1), 0);
         check.due("23: the first hangs more", x.weak(3), 1);
         check.due("23: in its year", x.weak(2), 1);
         x.deed(1, 0, 3, 0, 4, 5);
@@ -227,5 +230,51 @@ public final class StepTest {
             check.due("23: none", x.weak(0), -1);
             x.map(0);
         }
+    }
+
+    private static void largestLand() {
+        MovingBanks x = new MovingBanks();
+        x.land(12, 12);
+        x.own(0, 0, 11, 11, 1);
+        x.map(0);
+        x.sheet(0, 1, 12, -1, 0);
+        x.map(1);
+        x.sheet(0, 1, 12, 0, 0);
+        x.map(2);
+        stepDue("20: all is lost", x, 1, 1, 144, 0, 13, 1, 0, 0, 0);
+        stepDue("20: all is new", x, 2, 2, 0, 144, 13, 1, 1, 1, 0);
+        x.judge(1, 0);
+        check.due("20: by g all have none", x.step(1, 7), 144);
+        check.due("21: all", x.moved(1, 1), -144);
+        check.due("22: all", x.doubt(1, 1), 144);
+        check.due("15: none has all", x.area(-1, 2), 144);
+        check.due("16: no front", x.front(-1, 2), 0);
+        check.due("19: one", x.banks(2), 1);
+        check.due("19: none", x.banks(1), 0);
+        check.due("17: all years but one", x.tax(-1, 0, 200), 199 * 144);
+        check.due("18: the last cell", x.chain(11, 11), 2);
+        check.rowDue("18", x, 1, 0, -1, 1);
+        x.judge(2, 0);
+        check.due("22: without fast ones none", x.doubt(2, 2), 0);
+        check.due("23: all are judged", x.weak(2), -1);
+    }
+
+    /** What was found of a step of an earlier land counts no more. */
+    private static void factsAnew() {
+        MovingBanks x = delta();
+        x.land(3, 4);
+        x.own(0, 0, 2, 1, 4);
+        x.own(0, 2, 2, 3, 5);
+        Picture.draw(x, 3, "...", "...", "~~~", "...");
+        Picture.draw(x, 4, "...", "...", "...", "...");
+        stepDue("20: anew", x, 1, 4, 0, 3, 1, 0, 1, 0, 3);
+        x.law(0, 1, 1, 1);
+        check.due("14: shore is no isle", x.owner(1, 2, 4), 4);
+        x.deed(0, 3, 2, 3, 6, 4);
+        check.due("7: the box begins at y", x.owner(1, 2, 4), 4);
+        check.due("7: the box has y2", x.owner(1, 3, 4), 6);
+        Picture.draw(x, 5, "...", "...", "...", "~~~");
+        Picture.draw(x, 6, "...", "...", "~~~", "~~~");
+        check.due("20: one row apart", x.step(3, 3), 1);
     }
 }
